@@ -59,6 +59,8 @@ public final class SchoolDoors {
     private final Benches benches = new Benches();
     private final Term term = new Term();
     private final int[] found = new int[3];
+    /** By learners, for fewest(): the classes (bits) where he can sit. */
+    private final int[] where = new int[LEARNERS];
 
     public SchoolDoors() {
     }
@@ -363,7 +365,7 @@ public final class SchoolDoors {
     public int ended(int school, int plan, int seed, int k) {
         Plan p = going(school, plan);
         School s = now.schoolAt(school);
-        if (s == null || lessonOf(p, k) == null) {
+        if (p == null || s == null || lessonOf(p, k) == null) {
             return NONE;
         }
         term.run(s, p, seed, s.rules[WEEKS]);
@@ -515,7 +517,7 @@ public final class SchoolDoors {
     public int holds(int school, int plan, int seed, int w, int k) {
         Plan p = going(school, plan);
         School s = now.schoolAt(school);
-        if (s == null || lessonOf(p, k) == null || w < 1 || w > SEEDS) {
+        if (p == null || s == null || lessonOf(p, k) == null || w < 1 || w > SEEDS) {
             return NONE;
         }
         int holds = 0;
@@ -676,11 +678,14 @@ public final class SchoolDoors {
         return partner != NONE && !c.has(partner) ? 9 : 0;
     }
 
-    private static int fewestOf(School s, Plan p) {
+    private int fewestOf(School s, Plan p) {
+        for (int i = 0; i < s.learners; i++) {
+            where[i] = s.whereCan(p, i);
+        }
         int best = NONE;
         for (int set = 0; set < 1 << p.size; set++) {
             boolean fewer = best == NONE || Integer.bitCount(set) < Integer.bitCount(best);
-            if (fewer && allCanSit(s, p, set)) {
+            if (fewer && allCanSit(s, set)) {
                 best = set;
             }
         }
@@ -692,14 +697,13 @@ public final class SchoolDoors {
      * condition from both sides; seats for all within MOST and LEAST in each class, if both can be
      * had apart, can be had together.
      */
-    private static boolean allCanSit(School s, Plan p, int set) {
+    private boolean allCanSit(School s, int set) {
         for (int part = set; part >= 0; part = part == 0 ? NONE : part - 1 & set) {
             int bound = 0;
             int able = 0;
             for (int i = 0; i < s.learners; i++) {
-                int where = s.whereCan(p, i) & set;
-                bound += (where & ~part) == 0 ? 1 : 0;
-                able += (where & part) != 0 ? 1 : 0;
+                bound += (where[i] & set & ~part) == 0 ? 1 : 0;
+                able += (where[i] & part) != 0 ? 1 : 0;
             }
             int classes = Integer.bitCount(part);
             if (bound > s.rules[MOST] * classes || able < s.rules[LEAST] * classes) {
@@ -1025,16 +1029,15 @@ public final class SchoolDoors {
 
         void couple(int one, int other) {
             if (has(one) && has(other)) {
-                leave(one, partners[one]);
-                leave(other, partners[other]);
+                leave(partners[one]);
+                leave(partners[other]);
                 partners[one] = other;
                 partners[other] = one;
             }
         }
 
-        private void leave(int one, int partner) {
+        private void leave(int partner) {
             if (has(partner)) {
-                partners[one] = NONE;
                 partners[partner] = NONE;
             }
         }

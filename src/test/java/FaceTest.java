@@ -162,7 +162,7 @@ public final class FaceTest {
         methods.sort((a, b) -> a.getName().compareTo(b.getName()));
         List<String> changes = Arrays.asList("feed", "end", "text", "sit", "next", "again");
         for (int seed = 0; seed < 150; seed++) {
-            Random r = new Random(seed);
+            Random r = new Random(seed * 0x9E3779B97F4A7C15L);
             SchoolDoors x = new SchoolDoors();
             for (int i = 0; i < 1500; i++) {
                 Method m = methods.get(r.nextInt(methods.size()));

@@ -8,6 +8,7 @@ import java.util.Set;
 public final class NaiveTest {
     private static int wrong = 0;
     private static int compared = 0;
+    private static final int[] sizes = new int[17];
 
     private static final class Pupil {
         int step;
@@ -462,6 +463,8 @@ public final class NaiveTest {
 
     // ---- who sits beside whom, by all ways in their order
 
+    /** All ways of ten to twelve take long: a few classes of so many are enough. */
+    private static int manyBeside = 0;
     private static int bestBeside;
     private static int[] bestNeighbours;
 
@@ -491,7 +494,8 @@ public final class NaiveTest {
     }
 
     private static void compareBeside(SchoolDoors x, Model m, Course c, int k) {
-        if (c.sits.size() > 9 && c.sits.size() <= 12) {
+        boolean many = c.sits.size() > 9 && c.sits.size() <= 12;
+        if (many && manyBeside++ >= 12) {
             return;
         }
         bestBeside = -1;
@@ -955,7 +959,7 @@ public final class NaiveTest {
     }
 
     private static void compare(int seed) {
-        Random r = new Random(seed);
+        Random r = new Random(seed * 0x9E3779B97F4A7C15L);
         StringBuilder text = new StringBuilder();
         Model m = school(r, text);
         StringBuilder planText = new StringBuilder();
@@ -965,6 +969,7 @@ public final class NaiveTest {
         if (text.length() > 600 || planText.length() > 600 || otherText.length() > 600) {
             return;
         }
+        sizes[m.pupils.size()]++;
         SchoolDoors x = new SchoolDoors();
         feed(x, text.toString());
         due("school", x.text(0, -1), 0);
@@ -995,6 +1000,9 @@ public final class NaiveTest {
             if (wrong > before && wrong < 40) {
                 System.out.println("  (seed " + seed + ")");
             }
+        }
+        for (int n = 0; n <= 16; n++) {
+            due("schools of " + n + " learners", sizes[n] > 0 ? 1 : 0, 1);
         }
         System.out.println(compared + " answers compared, " + wrong + " are not as due");
         if (wrong != 0) {

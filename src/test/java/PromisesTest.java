@@ -189,6 +189,15 @@ public final class PromisesTest {
         fault("sits;", 1, 1, 4);
         fault("even 0 0 0;even 0 0 0;even 0 0 0;even 0 0 0;even 0 0 0;even 0 0 0;\ntwo 5 0 0 0;", 1, 3, 67);
         fault("fee 7;", 1, 1, 0);
+        StringBuilder many = new StringBuilder();
+        for (int i = 0; i < 16; i++) {
+            many.append("learner 0 1 0;");
+        }
+        fault(many.toString(), 0, 0, -1);
+        fault(many + "learner 12 1 0;", 0, 3, 224);
+        fault("teacher 1 0;teacher 1 0;teacher 1 0;teacher 1 0;teacher 1 0;", 0, 0, -1);
+        fault("teacher 1 0;teacher 1 0;teacher 1 0;teacher 1 0;teacher 1 0; teacher 0 0;", 0, 3, 61);
+        behindTheEnd();
         SchoolDoors x = new SchoolDoors();
         school(x, "rooms 10;");
         due(5, "another what", x.fault(2), -1);
@@ -197,6 +206,19 @@ public final class PromisesTest {
         school(x, "rooms 9;");
         due(5, "the latest alone", x.fault(0), 0);
         due(5, "its place", x.fault(1), -1);
+    }
+
+    /** Bytes that end() took off are no part of a token. */
+    private static void behindTheEnd() {
+        SchoolDoors x = new SchoolDoors();
+        feed(x, "rooms 95;");
+        x.end(7);
+        due(5, "cut", x.text(0, -1), -1);
+        due(5, "cut in a number", x.fault(1), 7);
+        feed(x, "feex");
+        x.end(3);
+        due(5, "cut", x.text(0, -1), -1);
+        due(5, "cut in a word", x.fault(1), 3);
     }
 
     private static void promise6() {
@@ -479,6 +501,10 @@ public final class PromisesTest {
         due(20, "no such school", x.whom(1, 0), -1);
         SchoolDoors y = with("above 0 40 1;below 1 30 1;below 2 50 1;learner 11 1 9;perhaps 0 10;teacher 1 0;",
                 "even 0 0 11;even 0 0 10;");
+        due(20, "above 0", y.whom(0, 0), 0);
+        SchoolDoors z = with("above 0 10 1;above 2 1 1;learner 5 1 9;perhaps 0 1;teacher 1 0;", "even 0 0 5;even 0 0 8;");
+        due(19, "1", z.test(0, 0, 0), 1);
+        due(20, "1 is above 0", z.whom(0, 0), 0);
         due(19, "of 11: 12", y.test(0, 0, 0), 90 * 40 + 10 * 50 - (90 * 40 + 10 * 30));
     }
 
@@ -531,6 +557,8 @@ public final class PromisesTest {
         SchoolDoors y = with("learner 1 1 0;learner 1 1 0;");
         due(23, "fills", y.fills(0, false), 0);
         due(23, "pays", y.fills(0, true), 0);
+        SchoolDoors v = with("learner 1 1 1;learner 1 1 0;");
+        due(23, "1 pays more than 0", v.fills(0, true), 1);
         SchoolDoors z = with("");
         due(23, "no learners", z.fills(0, false), -1);
         due(23, "no learners", z.fills(0, true), -1);
@@ -657,6 +685,10 @@ public final class PromisesTest {
             held += there ? 1 : 0;
         }
         due(39, "eight seeds", x.holds(0, 0, -3, 8, 0), held);
+        SchoolDoors y = with("learner 5 1 1;teacher 1 0;weeks 1;", "even 0 0 9;sits 0;even 0 0 1;sits 0;");
+        for (int seed = 0; seed < 400; seed += 8) {
+            due(39, "beyond the table nobody stays", y.holds(0, 0, seed, 8, 0) + y.holds(0, 0, seed, 8, 1), 0);
+        }
     }
 
     private static void promises29To32() {
@@ -788,6 +820,10 @@ public final class PromisesTest {
         SchoolDoors y = with("above 0 20 1;learner 5 1 9;teacher 1 0;teacher 1 0;rooms 1;", "even 0 0 5;", "");
         due(37, "no room", y.open(0, 0, 5), -1);
         due(37, "a room", y.open(0, 1, 5), 0);
+        SchoolDoors z = with("above 1 20 1;below 1 20 1;learner 0 1 9;learner 11 1 9;teacher 1 0;", "");
+        due(37, "11 is a step", z.open(0, 0, 10), 0);
+        due(37, "12 is none", z.open(0, 0, 12), -1);
+        due(37, "-1 is none", z.open(0, 0, -1), -1);
     }
 
     private static void promise38() {

@@ -189,7 +189,7 @@ public final class TextTest {
 
     public static void main(String[] args) {
         for (int seed = 1; seed <= 20000; seed++) {
-            Random r = new Random(seed);
+            Random r = new Random(seed * 0x9E3779B97F4A7C15L);
             boolean school = r.nextBoolean();
             String text = textBy(r, school);
             int[] want = faultOf(school, text);

@@ -8,6 +8,8 @@ import java.util.Set;
 public final class NaiveTest {
     private static int wrong = 0;
     private static int compared = 0;
+    /** For several schools one after the other: what an earlier one left in tables must not count. */
+    private static SchoolDoors used = new SchoolDoors();
     private static final int[] sizes = new int[17];
 
     private static final class Pupil {
@@ -815,7 +817,7 @@ public final class NaiveTest {
     }
 
     private static void compareNext(SchoolDoors x, Model m, List<Course> plan) {
-        due("next", x.next(0, 0, -1), 1);
+        due("next", x.next(0, 0, x.count(0) == 1 ? -1 : 1), 1);
         List<Integer> rising = rising(m, plan);
         for (int i = 0; i < m.pupils.size(); i++) {
             Pupil p = m.pupils.get(i);
@@ -970,13 +972,16 @@ public final class NaiveTest {
             return;
         }
         sizes[m.pupils.size()]++;
-        SchoolDoors x = new SchoolDoors();
+        boolean fresh = r.nextInt(3) == 0;
+        used = fresh ? new SchoolDoors() : used;
+        SchoolDoors x = used;
+        boolean first = x.count(0) == 0;
         feed(x, text.toString());
-        due("school", x.text(0, -1), 0);
+        due("school", x.text(0, first ? -1 : 0), 0);
         feed(x, planText.toString());
-        due("plan", x.text(1, -1), 0);
+        due("plan", x.text(1, first ? -1 : 0), 0);
         feed(x, otherText.toString());
-        due("other plan", x.text(1, -1), 1);
+        due("other plan", x.text(1, first ? -1 : 1), 1);
         due("goes", x.goes(0, 0) ? 1 : 0, 1);
         due("classes", x.plan(0, -1, 0), plan.size());
         compareSchool(x, m, r);
